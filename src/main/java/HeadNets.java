@@ -507,7 +507,7 @@ public final class HeadNets {
         }
 
         private boolean has(int r) {
-            return isInside(r, size) && r < MOST_RULES;
+            return r >= 0 && r < size && r < MOST_RULES;
         }
 
         int ruleFor(int a, int b) {
@@ -700,7 +700,7 @@ public final class HeadNets {
             boolean lesserIsFirst = book.rules.firstKind(r) == book.net.kindOf(lesser);
             int first = lesserIsFirst ? lesser : greater;
             int second = lesserIsFirst ? greater : lesser;
-            Arrays.fill(passed, true);
+            passAll();
             noteOutside(book, first, second, 0);
             noteOutside(book, second, first, SIDE_SLOTS);
             book.net.remove(first);
@@ -709,6 +709,12 @@ public final class HeadNets {
             wireAgents(book, r);
             wireOuter(book, r);
             book.net.rings += book.rules.ringsIn(r) + countRings(book.rules, r);
+        }
+
+        private void passAll() {
+            for (int slot = 0; slot < SLOTS; slot++) {
+                passed[slot] = true;
+            }
         }
 
         /** Looks at the PORTS of one side before its AGENT goes. */
@@ -967,7 +973,8 @@ public final class HeadNets {
             }
         }
 
-        void putTree(Book book, int code, int open) {
+        /** open tells how many AGENTS the tree stands within. */
+        private void putTree(Book book, int code, int open) {
             if (code < 0) {
                 put('#');
                 put('0' + endOf(code));
@@ -1154,7 +1161,6 @@ public final class HeadNets {
 
         void clear() {
             Arrays.fill(mates, NONE);
-            Arrays.fill(walked, false);
             agentCount = 0;
             nameCount = 0;
             endCount = 0;
@@ -1184,6 +1190,7 @@ public final class HeadNets {
             }
             names[nameCount] = name;
             times[nameCount] = 0;
+            walked[nameCount] = false;
             nameCount++;
             return nameCount - 1;
         }
