@@ -160,6 +160,11 @@ public final class StepTest {
     // the latest run() is still that one
     CHECK.due("read()", x.read(), 0);
     CHECK.due("count(11) after read()", x.count(11), 1);
+    HeadNets byOne = Check.with("kind A a+; kind B a-; kind S a+(a-); rule A >< B : S(A) = B; rule S(x) >< B : x = B, A = B; net "
+        + pairs(100) + ";");
+    CHECK.due("400 may be, 401 not", byOne.run(2, 3000), 200);
+    CHECK.due("count(2)", byOne.count(2), 400);
+    CHECK.due("count(11)", byOne.count(11), 1);
     HeadNets even = Check.with("kind A a+; kind B a-; kind C a+; rule A >< B : A = B, C = B; rule C >< B : C = B; net " + pairs(100) + ";");
     CHECK.due("run to 400", even.run(0, 100), 100);
     CHECK.due("count(11)", even.count(11), 0);
