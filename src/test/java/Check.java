@@ -32,6 +32,10 @@ final class Check {
     }
   }
 
+  int askedSoFar() {
+    return asked;
+  }
+
   int wrongSoFar() {
     return wrong;
   }

@@ -86,7 +86,7 @@ public final class FaultTest {
   }
 
   private static void limits() {
-    String kinds16 = repeat(16, "kind K# a+; ");
+    String kinds16 = Texts.kinds(16);
     CHECK.good(0, kinds16);
     CHECK.fault(4, kinds16 + "kind ^L a+;");
     CHECK.fault(3, kinds16 + "kind ^K1 a+;");
@@ -94,40 +94,32 @@ public final class FaultTest {
     CHECK.fault(4, "kind A a+(a+,a+,a+,a+,^a+);");
     CHECK.fault(2, "kind A a+(a+,a+,a+,a+,^aa+);");
     ruleLimit();
-    CHECK.good(0, AB + "rule Z >< E : " + joined(6, "Z = E") + ";");
-    CHECK.fault(4, AB + "rule Z >< E : " + joined(6, "Z = E") + ", ^Z = E;");
-    CHECK.fault(3, AB + "rule Z >< E : " + joined(6, "Z = E") + ", ^Q = E;");
-    CHECK.good(200, AB + "net " + joined(100, "Z = E") + ";");
-    CHECK.fault(4, AB + "net " + joined(100, "Z = E") + ", x = ^E;");
-    CHECK.good(0, "net " + joined(60, "n# = n#") + ";");
-    CHECK.fault(4, "net " + joined(60, "n# = n#") + ", ^m = n1;");
-    CHECK.fault(7, "net " + joined(60, "n# = n#") + ", n1 = n2^;");
-    CHECK.good(0, "kind Z a+; kind E a-; rule Z >< E : " + joined(60, "n# = n#") + ";");
-    CHECK.fault(4, "kind Z a+; kind E a-; rule Z >< E : " + joined(60, "n# = n#") + ", ^m = m;");
-    CHECK.good(0, AB + "rule A(x) >< B(y) : x = y, " + joined(58, "n# = n#") + ";");
-    CHECK.fault(4, AB + "rule A(x) >< B(y) : x = y, " + joined(58, "n# = n#") + ", ^m = m;");
-    CHECK.fault(4, AB + "rule A(" + joined(60, "n#") + ",^m) >< B(y);");
-    CHECK.good(12, AB + "net x = " + nested(11, "Z") + ";");
-    CHECK.good(11, AB + "net x = " + nested(11, "y") + ";");
-    CHECK.fault(4, AB + "net x = " + nested(12, "^Z") + ";");
-    CHECK.fault(4, AB + "net x = " + nested(12, "^y") + ";");
-    CHECK.fault(3, AB + "net x = " + nested(12, "^Q") + ";");
-    CHECK.fault(2, AB + "net x = " + nested(12, "^") + ";");
+    CHECK.good(0, AB + "rule Z >< E : " + Texts.joined(6, "Z = E") + ";");
+    CHECK.fault(4, AB + "rule Z >< E : " + Texts.joined(6, "Z = E") + ", ^Z = E;");
+    CHECK.fault(3, AB + "rule Z >< E : " + Texts.joined(6, "Z = E") + ", ^Q = E;");
+    CHECK.good(200, AB + "net " + Texts.joined(100, "Z = E") + ";");
+    CHECK.fault(4, AB + "net " + Texts.joined(100, "Z = E") + ", x = ^E;");
+    CHECK.good(0, "net " + Texts.joined(60, "n# = n#") + ";");
+    CHECK.fault(4, "net " + Texts.joined(60, "n# = n#") + ", ^m = n1;");
+    CHECK.fault(7, "net " + Texts.joined(60, "n# = n#") + ", n1 = n2^;");
+    CHECK.good(0, "kind Z a+; kind E a-; rule Z >< E : " + Texts.joined(60, "n# = n#") + ";");
+    CHECK.fault(4, "kind Z a+; kind E a-; rule Z >< E : " + Texts.joined(60, "n# = n#") + ", ^m = m;");
+    CHECK.good(0, AB + "rule A(x) >< B(y) : x = y, " + Texts.joined(58, "n# = n#") + ";");
+    CHECK.fault(4, AB + "rule A(x) >< B(y) : x = y, " + Texts.joined(58, "n# = n#") + ", ^m = m;");
+    CHECK.fault(4, AB + "rule A(" + Texts.joined(60, "n#") + ",^m) >< B(y);");
+    CHECK.good(12, AB + "net x = " + Texts.nested(11, "Z") + ";");
+    CHECK.good(11, AB + "net x = " + Texts.nested(11, "y") + ";");
+    CHECK.fault(4, AB + "net x = " + Texts.nested(12, "^Z") + ";");
+    CHECK.fault(4, AB + "net x = " + Texts.nested(12, "^y") + ";");
+    CHECK.fault(3, AB + "net x = " + Texts.nested(12, "^Q") + ";");
+    CHECK.fault(2, AB + "net x = " + Texts.nested(12, "^") + ";");
     CHECK.fault(4, "net ; ^net;");
     CHECK.fault(4, "net x = y; kind A a+; ^net");
   }
 
-  /** 16 kinds have 136 unordered pairs, enough for more than 60 rules. */
   private static void ruleLimit() {
-    StringBuilder text = new StringBuilder(repeat(16, "kind K# a+; "));
-    int rules = 0;
-    for (int a = 0; a < 16 && rules < 60; a++) {
-      for (int b = a; b < 16 && rules < 60; b++) {
-        text.append("rule K").append(a).append("><K").append(b).append(';');
-        rules++;
-      }
-    }
-    CHECK.good(0, text.toString());
+    String text = Texts.kinds(16) + Texts.rules(60);
+    CHECK.good(0, text);
     CHECK.fault(4, text + "^rule K9 >< K9;");
     CHECK.fault(4, text + "^rule ;");
   }
@@ -191,22 +183,5 @@ public final class FaultTest {
     CHECK.fault(7, "kind A a+(b-); kind B a-(c+); rule A(x) >< B(x)^;");
     CHECK.fault(7, AB + "rule Z >< E : Z = q, q = Z^;");
     CHECK.good(0, "kind A a+; kind B b+; rule A >< B;");
-  }
-
-  private static String nested(int terms, String inmost) {
-    return "A(".repeat(terms) + inmost + ")".repeat(terms);
-  }
-
-  private static String repeat(int n, String part) {
-    StringBuilder text = new StringBuilder();
-    for (int i = 0; i < n; i++) {
-      text.append(part.replace("#", "" + i));
-    }
-    return text.toString();
-  }
-
-  private static String joined(int n, String part) {
-    String text = repeat(n, part + ", ");
-    return text.substring(0, text.length() - 2);
   }
 }
