@@ -3,6 +3,8 @@ import java.util.function.ToIntFunction;
 
 /** Asks the boundary cases that the document's sentences name, each behind the sentence itself. */
 final class Edges {
+  /** Numbers that no call takes where it takes a number of something. */
+  static final int[] FAR_OUT = {Integer.MIN_VALUE, Integer.MIN_VALUE + 1, -1001, -2, Integer.MAX_VALUE - 1, Integer.MAX_VALUE};
   /** What THE TAPE of someObject() has. */
   static final String TAPE = "net ; net";
 

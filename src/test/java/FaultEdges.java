@@ -306,6 +306,33 @@ final class FaultEdges {
     edges.due("rule(0, 0)", x.rule(0, 0), HeadNets.NONE);
     edges.due("ENDS", x.count(3), 0);
     edges.due("agent(0)", x.agent(0), HeadNets.UNKNOWN);
+    nothingOfEarlierTexts();
+  }
+
+  /** Texts after a rich one, each of which tells less; also with texts between that have a FAULT. */
+  private void nothingOfEarlierTexts() {
+    String rich = AB + "rule Z >< E : Z = E, Z = E, r = r; rule A(x) >< B(y) : x = y; net A(x) = B(y), Z = E, r = r, s = s, u = v;";
+    String plain = "kind C a+; kind F a-; rule C >< F : C = F; net C = F;";
+    for (String between : new String[] {plain, rich, rich + " ?", rich.replace("net", "net Z = Z,")}) {
+      HeadNets x = Check.with(rich);
+      Check.read(x, between);
+      edges.due("read() of a plain text", Check.read(x, plain), 2);
+      edges.dueRow("count of it", x::count, 2, 1, 2, 0, 0, 1, 0, 0, 0, 2, 0, 0, 0);
+      edges.due("AGENTS in its RULE", x.rule(0, 1), 2);
+      edges.due("step(0)", x.step(0), 1);
+      edges.due("RINGS", x.count(4), 0);
+      edges.due("AGENTS", x.count(2), 2);
+      Check.read(x, between);
+      edges.due("read() of KINDS alone", Check.read(x, AB), 0);
+      edges.dueRow("count of them", x::count, 4, 0, 0, 0, 0, 0, 0, 0, 0, 0, 0, 0, 0);
+      edges.due("rule(2, 3)", x.rule(2, 3), HeadNets.NONE);
+      edges.due("rule(0, 1)", x.rule(0, 1), HeadNets.NONE);
+      edges.dueRow("agent", x::agent, HeadNets.UNKNOWN, HeadNets.UNKNOWN, HeadNets.UNKNOWN, HeadNets.UNKNOWN);
+      edges.due("end(0)", x.end(0), HeadNets.UNKNOWN);
+      Check.read(x, between);
+      edges.due("read() of the same RULES again", Check.read(x, rich), 4);
+      edges.due("count(4)", x.count(4), 2);
+    }
   }
 
   private void leavesAllElse() {

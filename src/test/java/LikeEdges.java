@@ -88,6 +88,7 @@ final class LikeEdges {
     turnedDue(0, "net C(p, q, e) = M, T(p, q) = f;");
     turnedDue(0, "net T(p, q) = f, C(q, p, e) = M;");
     turnedDue(0, "net C(p, Z, e) = M, T(g, p) = f;");
+    headsAlone();
     // ENDS alone
     turnedDue(0, "net C(a, b, Y) = M;");
     turnedDue(0, "net a = b, c = d, e = f, C(g, h, Y) = M;");
@@ -105,14 +106,32 @@ final class LikeEdges {
     edges.due("like itself", x.like(2), 1);
   }
 
+  /** Turning C's ports round tells only by which HEADS meet, as all else there is the same. */
+  private void headsAlone() {
+    HeadNets x = Check.with("kind C a+(b-, b-, b-, b-); kind M a-(c+); kind K d+(b+); kind L d-(b+); "
+        + "rule C(w, x, y, z) >< M(e) : C(x, w, y, z) = M(e); net C(p, q, r, s) = M(e), K(p) = L(r), K(q) = L(s);");
+    x.keep(0);
+    x.run(0, 1);
+    edges.due("HEADS that meet others", x.like(0), 0);
+    x.run(0, 1);
+    edges.due("HEADS that meet the same again", x.like(0), 1);
+  }
+
   private void otherCounts() {
     edges.says("and both have as many ENDS, AGENTS that are not reached (of each KIND), and RINGS.");
     String kinds = "kind P a+; kind M a-; kind Q a+; ";
     stepDiffers("a RING more", kinds + "rule P >< M : P = M, x = x; net P = M;");
     stepDiffers("two AGENTS fewer", kinds + "rule P >< M; net P = M, e = f;");
     stepDiffers("as many, but one of another KIND", kinds + "rule P >< M : Q = M; net P = M, e = f;");
-    stepDiffers("of the first KIND", Texts.kinds(14) + "kind M a-; kind N a-; rule K0 >< M : K1 = M; net K0 = M;");
-    stepDiffers("of the last KIND", Texts.kinds(14) + "kind M a-; kind N a-; rule K0 >< M : K0 = N; net K0 = M;");
+    // A is wired to itself, so that one can come without any other AGENT
+    stepDiffers("one more of the first KIND alone", "kind A a+(a-); kind P a+; kind M a-; rule P >< M : P = M, A(x) = x; net P = M;");
+    stepDiffers("one more of the last KIND alone", Texts.kinds(14) + "kind M a-; kind A a+(a-); rule K0 >< M : K0 = M, A(x) = x; "
+        + "net K0 = M;");
+    HeadNets turned = Check.with("kind K a+(b-); kind L a+(b-); kind M a-; kind N a-; kind Y b+; rule K(x) >< M : L(x) = M; "
+        + "rule L(x) >< N : K(x) = N; net K(e) = M, L(Y) = N;");
+    turned.keep(0);
+    edges.due("run(0, 9)", turned.run(0, 9), 2);
+    edges.due("as many of each KIND in all, but L is reached in place of K", turned.like(0), 0);
 
     edges.says("(How those are wired is not looked at.)");
     turnedDue(1, "net C(Y, Z, Y) = M;");

@@ -1,6 +1,5 @@
 /** Boundary cases of promises 6 to 12: count, kind, rule, agent, wired, end, pair. */
 final class LookEdges {
-  private static final int[] FAR_OUT = {Integer.MIN_VALUE, Integer.MIN_VALUE + 1, -1001, -2, Integer.MAX_VALUE - 1, Integer.MAX_VALUE};
   private static final String PM = "kind P a+; kind M a-; ";
 
   private final Edges edges;
@@ -101,6 +100,11 @@ final class LookEdges {
       edges.due("none was to be done", x.count(11), 0);
       edges.due("step(0)", x.step(0), 0);
       edges.due("step() is no run()", x.count(11), 0);
+      HeadNets ending = Check.with("kind Q a+; kind P a+; kind M a-; rule P >< M; net Q = M, P = M;");
+      edges.due("run(" + order + ", 9) to its end", ending.run(order, 9), 1);
+      edges.due("no PAIR was ALIVE any more", ending.count(11), 0);
+      edges.due("run(" + order + ", 9) with a DEAD one alone", ending.run(order, 9), 0);
+      edges.due("none was ALIVE", ending.count(11), 0);
     }
     HeadNets over = Check.with(PM + "rule P >< M : P = M, P = M; net P = M;");
     edges.due("run(0, 3000)", over.run(0, 3000), 199);
@@ -124,7 +128,7 @@ final class LookEdges {
     edges.says("OUTSIDE.");
     edges.unchanged("count(-1)", object -> object.count(-1), HeadNets.OUTSIDE);
     edges.unchanged("count(13)", object -> object.count(13), HeadNets.OUTSIDE);
-    for (int what : FAR_OUT) {
+    for (int what : Edges.FAR_OUT) {
       edges.due("count(" + what + ")", x.count(what), HeadNets.OUTSIDE);
     }
   }
@@ -165,7 +169,7 @@ final class LookEdges {
     HeadNets all = Check.with(Texts.kinds(16));
     edges.due("kind(15, 0) of 16", all.kind(15, 0), 1);
     edges.due("kind(16, 0) of 16", all.kind(16, 0), HeadNets.UNKNOWN);
-    for (int far : FAR_OUT) {
+    for (int far : Edges.FAR_OUT) {
       edges.due("kind(" + far + ", 0)", all.kind(far, 0), HeadNets.UNKNOWN);
       edges.due("kind(0, " + far + ")", all.kind(0, far), HeadNets.OUTSIDE);
       edges.due("kind(" + far + ", " + far + ")", all.kind(far, far), HeadNets.UNKNOWN);
@@ -197,7 +201,7 @@ final class LookEdges {
     edges.unchanged("rule(0, 4)", object -> object.rule(0, 4), HeadNets.UNKNOWN);
     edges.unchanged("rule(-1, 0)", object -> object.rule(-1, 0), HeadNets.UNKNOWN);
     edges.unchanged("rule(0, -1)", object -> object.rule(0, -1), HeadNets.UNKNOWN);
-    for (int far : FAR_OUT) {
+    for (int far : Edges.FAR_OUT) {
       edges.due("rule(" + far + ", 0)", x.rule(far, 0), HeadNets.UNKNOWN);
       edges.due("rule(0, " + far + ")", x.rule(0, far), HeadNets.UNKNOWN);
     }
@@ -221,7 +225,7 @@ final class LookEdges {
     edges.due("the next one", x.agent(10), 2);
     edges.unchanged("agent(-1)", object -> object.agent(-1), HeadNets.UNKNOWN);
     edges.unchanged("agent(7)", object -> object.agent(7), HeadNets.UNKNOWN);
-    for (int far : FAR_OUT) {
+    for (int far : Edges.FAR_OUT) {
       edges.due("agent(" + far + ")", x.agent(far), HeadNets.UNKNOWN);
     }
   }
@@ -249,7 +253,7 @@ final class LookEdges {
     edges.unchanged("wired(-1, -1)", object -> object.wired(-1, -1), HeadNets.UNKNOWN);
     edges.unchanged("wired(0, -1)", object -> object.wired(0, -1), HeadNets.OUTSIDE);
     edges.unchanged("wired(0, 1)", object -> object.wired(0, 1), HeadNets.OUTSIDE);
-    for (int far : FAR_OUT) {
+    for (int far : Edges.FAR_OUT) {
       edges.due("wired(" + far + ", 0)", x.wired(far, 0), HeadNets.UNKNOWN);
       edges.due("wired(0, " + far + ")", x.wired(0, far), HeadNets.OUTSIDE);
     }
@@ -279,7 +283,7 @@ final class LookEdges {
     edges.due("end(0) of none", Check.with("net;").end(0), HeadNets.UNKNOWN);
     edges.unchanged("end(-1)", object -> object.end(-1), HeadNets.UNKNOWN);
     edges.unchanged("end(1)", object -> object.end(1), HeadNets.UNKNOWN);
-    for (int far : FAR_OUT) {
+    for (int far : Edges.FAR_OUT) {
       edges.due("end(" + far + ")", x.end(far), HeadNets.UNKNOWN);
     }
 
@@ -302,7 +306,7 @@ final class LookEdges {
     edges.due("pair(0) of none", Check.with(PM + "net P = M;").pair(0), HeadNets.NONE);
     edges.unchanged("pair(-1)", object -> object.pair(-1), HeadNets.NONE);
     edges.unchanged("pair(2)", object -> object.pair(2), HeadNets.NONE);
-    for (int far : FAR_OUT) {
+    for (int far : Edges.FAR_OUT) {
       edges.due("pair(" + far + ")", all.pair(far), HeadNets.NONE);
     }
   }

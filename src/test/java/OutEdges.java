@@ -1,6 +1,5 @@
 /** Boundary cases of promises 21 and 22: print, out. */
 final class OutEdges {
-  private static final int[] FAR_OUT = {Integer.MIN_VALUE, Integer.MIN_VALUE + 1, -1001, -2, Integer.MAX_VALUE - 1, Integer.MAX_VALUE};
   private static final String LEAF = "L12345(@,@,@,@)";
   /** What one S becomes in the tree, up to where the next one's stands. */
   private static final String LEVEL = "T123(T123(" + LEAF + "," + LEAF + "," + LEAF + "," + LEAF + ")," + LEAF + "," + LEAF + ",";
@@ -81,7 +80,7 @@ final class OutEdges {
     edges.unchanged("print(1)", x -> x.print(1), HeadNets.UNKNOWN);
     edges.unchanged("print(-1)", x -> x.print(-1), HeadNets.UNKNOWN);
     edges.unchanged("print(8)", x -> x.print(8), HeadNets.UNKNOWN);
-    for (int far : FAR_OUT) {
+    for (int far : Edges.FAR_OUT) {
       edges.unchanged("print(" + far + ")", x -> x.print(far), HeadNets.UNKNOWN);
     }
     edges.due("print(0) without ENDS", Check.with("net;").print(0), HeadNets.UNKNOWN);
@@ -105,7 +104,7 @@ final class OutEdges {
     full.print(0);
     edges.due("out(3999) of 4000", full.out(3999), tree(39, "Z").charAt(3999));
     edges.due("out(4000) of 4000", full.out(4000), HeadNets.NONE);
-    for (int far : FAR_OUT) {
+    for (int far : Edges.FAR_OUT) {
       edges.due("out(" + far + ")", full.out(far), HeadNets.NONE);
     }
     // what an earlier, longer tree had behind is not there any more

@@ -1,6 +1,5 @@
 /** Boundary cases of promises 13 to 16: step, run, draw, trace. */
 final class RunEdges {
-  private static final int[] FAR_OUT = {Integer.MIN_VALUE, Integer.MIN_VALUE + 1, -1001, -2, Integer.MAX_VALUE - 1, Integer.MAX_VALUE};
   private static final String PM = "kind P a+; kind M a-; ";
 
   private final Edges edges;
@@ -70,7 +69,7 @@ final class RunEdges {
     HeadNets other = Check.with("kind S a+(a-); kind M a-; rule S(x) >< M : x = M; net S(S(e)) = M, S(x) = x;");
     edges.due("a HEAD at another PORT", other.step(1), HeadNets.STATE);
     edges.due("a HEAD at a PORT of its own", other.step(3), HeadNets.STATE);
-    for (int far : FAR_OUT) {
+    for (int far : Edges.FAR_OUT) {
       edges.due("step(" + far + ")", full.step(far), HeadNets.UNKNOWN);
     }
   }
@@ -146,7 +145,7 @@ final class RunEdges {
       edges.unchanged("run(" + by + ", 3001)", x -> x.run(by, 3001), HeadNets.OUTSIDE);
       edges.unchanged("run(" + by + ", 0)", x -> x.run(by, 0), 0);
     }
-    for (int far : FAR_OUT) {
+    for (int far : Edges.FAR_OUT) {
       edges.unchanged("run(" + far + ", 1)", x -> x.run(far, 1), HeadNets.OUTSIDE);
       edges.unchanged("run(3, " + far + ")", x -> x.run(3, far), HeadNets.OUTSIDE);
     }
@@ -210,7 +209,7 @@ final class RunEdges {
     x.run(0, 3000);
     edges.due("trace(49)", x.trace(49), 16 * (2950 % 15) + 15);
     edges.due("trace(50)", x.trace(50), HeadNets.NONE);
-    for (int far : FAR_OUT) {
+    for (int far : Edges.FAR_OUT) {
       edges.due("trace(" + far + ")", x.trace(far), HeadNets.NONE);
     }
     x.read();

@@ -1,6 +1,5 @@
 /** Boundary cases of promises 17 to 20: keep, back, like, reached. */
 final class ShelfEdges {
-  private static final int[] FAR_OUT = {Integer.MIN_VALUE, Integer.MIN_VALUE + 1, -1001, -2, Integer.MAX_VALUE - 1, Integer.MAX_VALUE};
   private static final String PM = "kind P a+; kind M a-; ";
 
   private final Edges edges;
@@ -54,7 +53,7 @@ final class ShelfEdges {
     edges.says("UNKNOWN.");
     edges.unchanged("keep(-1)", object -> object.keep(-1), HeadNets.UNKNOWN);
     edges.unchanged("keep(4)", object -> object.keep(4), HeadNets.UNKNOWN);
-    for (int far : FAR_OUT) {
+    for (int far : Edges.FAR_OUT) {
       edges.unchanged("keep(" + far + ")", object -> object.keep(far), HeadNets.UNKNOWN);
     }
   }
@@ -96,7 +95,7 @@ final class ShelfEdges {
     edges.unchanged("back(0)", object -> object.back(0), HeadNets.STATE);
     edges.unchanged("back(2)", object -> object.back(2), HeadNets.STATE);
     edges.unchanged("back(3)", object -> object.back(3), HeadNets.STATE);
-    for (int far : FAR_OUT) {
+    for (int far : Edges.FAR_OUT) {
       edges.unchanged("back(" + far + ")", object -> object.back(far), HeadNets.UNKNOWN);
     }
     HeadNets nothing = new HeadNets();
@@ -134,7 +133,7 @@ final class ShelfEdges {
     edges.unchanged("like(4)", object -> object.like(4), HeadNets.UNKNOWN);
     edges.unchanged("like(0)", object -> object.like(0), HeadNets.STATE);
     edges.unchanged("like(3)", object -> object.like(3), HeadNets.STATE);
-    for (int far : FAR_OUT) {
+    for (int far : Edges.FAR_OUT) {
       edges.unchanged("like(" + far + ")", object -> object.like(far), HeadNets.UNKNOWN);
     }
     empty.read();

@@ -92,6 +92,13 @@ final class StepEdges {
     edges.due("a HEAD at an END, at another PORT, at its own: ALIVE", none.count(5), 0);
     edges.due("DEAD", none.count(6), 0);
     edges.dueRow("step", none::step, HeadNets.STATE, HeadNets.STATE, HeadNets.STATE, HeadNets.STATE);
+    // P's KIND and S's have a RULE, but at a PORT but the HEAD P does not meet S
+    HeadNets port = Check.with("kind P a+; kind M a-; kind S a-(a-); rule P >< S(x) : x = M; net P = S(P), S(P) = e;");
+    edges.due("ALIVE", port.count(5), 1);
+    edges.due("DEAD", port.count(6), 0);
+    edges.dueRow("pair", port::pair, 0, HeadNets.NONE);
+    edges.due("step(2) at a PORT of an AGENT in a PAIR", port.step(2), HeadNets.STATE);
+    edges.due("step(4) at a PORT of another one", port.step(4), HeadNets.STATE);
   }
 
   private void newAgents() {
@@ -106,6 +113,9 @@ final class StepEdges {
     edges.due("step(1) to twelve", most.step(1), 1);
     edges.dueRow("agent", most::agent, 1, 0, 1, 0, 1, 0, 1, 0, 1, 0, 1, 0, HeadNets.UNKNOWN);
     edges.due("the twelfth is wired", most.wired(11, 0), 80);
+    HeadNets own = Check.with(PM + "kind C a+(a-, b-, b+); rule P >< M : C(x, y, y) = x; net M = P;");
+    edges.due("step(0) to one", own.step(0), 1);
+    edges.dueRow("wired(0, ..)", p -> own.wired(0, p), 1, 0, 3, 2);
   }
 
   private void joins() {
@@ -276,5 +286,12 @@ final class StepEdges {
     edges.due("and nothing is drawn: read()", Check.read(one, fifteenPairs()), 30);
     one.run(3, 1);
     edges.due("the second number from 1 on", one.trace(0), 16 * (1093944153 % 15) + 15);
+    HeadNets full = Check.with(PM + "rule P >< M : P = M, P = M; net P = M;");
+    full.run(0, 3000);
+    edges.due("run(3, 9) of a full NET", full.run(3, 9), 0);
+    edges.due("run(3, 9) again", full.run(3, 9), 0);
+    Check.read(full, fifteenPairs());
+    full.run(3, 1);
+    edges.due("a number was drawn each time: the third one", full.trace(0), 16 * (1392341196 % 15) + 15);
   }
 }

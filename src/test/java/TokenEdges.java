@@ -40,6 +40,10 @@ final class TokenEdges {
     edges.due("read() of 4000 bytes", x.read(), 198);
     edges.fault(2, "net " + "r=r,".repeat(999) + "^");
     edges.good(0, "net;" + "\n".repeat(3996));
+    // as many TOKENS as there can be
+    edges.faultAt(2, 0, ";".repeat(4000));
+    edges.faultAt(2, 4, "net " + "=".repeat(3996));
+    edges.faultAt(1, 0, "$".repeat(4000));
   }
 
   private void blanks() {
