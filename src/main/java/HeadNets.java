@@ -344,7 +344,7 @@ public final class HeadNets {
                 return done;
             }
             journal.rounds++;
-            for (int i = 0; i < size && done < n; i++) {
+            for (int i = 0; i < size && i < roundPairs.length && done < n; i++) {
                 if (!takeStep(roundPairs[i])) {
                     journal.crowded = true;
                     return done;
